@@ -429,11 +429,7 @@ public final class HandCases {
     private void lineUpFrame(int carrier) {
         rowLength = 0;
         addRound(carrier, Place.FRAME);
-        for (int hole = 0; hole < holes; hole++) {
-            if (leastCarrierAt(hole) == carrier) {
-                addAstrayAt(hole);
-            }
-        }
+        addAstray(carrier);
     }
 
     private void addRound(int carrier, Place place) {
@@ -446,15 +442,18 @@ public final class HandCases {
 
     private void addOfHouse(int house, Place place) {
         for (int item = 0; item < items; item++) {
-            if (goesTo(item, house, place)) {
+            if (numberOf[item] == house && leads(item) && placeOf(item) == place) {
                 addBundle(item);
             }
         }
     }
 
-    // A stray or astray one has its number too, but goes to no house: no caller asks for these places.
-    private boolean goesTo(int item, int house, Place place) {
-        return numberOf[item] == house && leads(item) && placeOf(item) == place;
+    private void addAstray(int carrier) {
+        for (int hole = 0; hole < holes; hole++) {
+            if (leastCarrierAt(hole) == carrier) {
+                addAstrayAt(hole);
+            }
+        }
     }
 
     private void addAstrayAt(int hole) {
@@ -476,27 +475,29 @@ public final class HandCases {
         return i >= 0 && i < rowLength ? row[i] : NONE;
     }
 
+    // The order of the row does not matter here: each house is asked for both, to tell whether it has something.
     private int secondsOf(int carrier) {
-        lineUpFrame(carrier);
-        addRound(carrier, Place.LIST);
+        int seconds = 0;
+        rowLength = 0;
+        for (int i = 0; i < houses; i++) {
+            if (carrierOf[told[i]] == carrier) {
+                int was = rowLength;
+                addOfHouse(told[i], Place.FRAME);
+                addOfHouse(told[i], Place.LIST);
+                if (rowLength > was) {
+                    seconds += SECONDS_OF_A_HOUSE;
+                }
+            }
+        }
+        addAstray(carrier);
+        return seconds + secondsOfRow();
+    }
+
+    private int secondsOfRow() {
         int seconds = 0;
         for (int i = 0; i < rowLength; i++) {
             seconds += SECONDS[kindOf[row[i]]];
         }
-        for (int i = 0; i < houses; i++) {
-            if (carrierOf[told[i]] == carrier && hasSomething(told[i])) {
-                seconds += SECONDS_OF_A_HOUSE;
-            }
-        }
         return seconds;
-    }
-
-    private boolean hasSomething(int house) {
-        for (int item = 0; item < items; item++) {
-            if (goesTo(item, house, Place.FRAME) || goesTo(item, house, Place.LIST)) {
-                return true;
-            }
-        }
-        return false;
     }
 }

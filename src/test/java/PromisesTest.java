@@ -512,6 +512,15 @@ public final class PromisesTest {
         same("13: a house, but at no hole", Ask.stray(x), "3");
         x.put(3, 0);
         same("13: wrong in a house's hole", Ask.stray(x), "");
+
+        HandCases y = small();
+        int[] numbers = {10, 99, 99, 99};
+        for (int number : numbers) {
+            y.item(number, LETTER);
+        }
+        y.bundle(0, 1);
+        y.bundle(3, 2);
+        same("13: by the one that leads", Ask.stray(y), "3 2");
     }
 
     private static void promise14() {
