@@ -28,7 +28,7 @@ final class Ask {
             if (one.equals(BOUNDS)) {
                 break;
             }
-            all.append(all.length() == 0 ? "" : " ").append(one);
+            add(all, one);
         }
         return all.toString();
     }
@@ -41,33 +41,39 @@ final class Ask {
             if (one.equals(BOUNDS)) {
                 break;
             }
-            all.append(all.length() == 0 ? "" : " ").append(one);
+            add(all, one);
         }
         return all.toString();
     }
 
     static String drawer(HandCases cases, int house) {
         StringBuilder all = new StringBuilder();
-        for (int i = 0; i < FAR && cases.drawer(house, i) != HandCases.NONE; i++) {
-            all.append(all.length() == 0 ? "" : " ").append(cases.drawer(house, i));
+        int item = cases.drawer(house, 0);
+        for (int i = 1; i < FAR && item != HandCases.NONE; i++) {
+            add(all, String.valueOf(item));
+            item = cases.drawer(house, i);
         }
         return all.toString();
     }
 
     static String stray(HandCases cases) {
         StringBuilder all = new StringBuilder();
-        for (int i = 0; i < FAR && cases.stray(i) != HandCases.NONE; i++) {
-            all.append(all.length() == 0 ? "" : " ").append(cases.stray(i));
+        int item = cases.stray(0);
+        for (int i = 1; i < FAR && item != HandCases.NONE; i++) {
+            add(all, String.valueOf(item));
+            item = cases.stray(i);
         }
         return all.toString();
     }
 
     static String teaching(HandCases cases) {
         StringBuilder all = new StringBuilder();
-        for (int i = 0; i < FAR && cases.teaching(i, 0) != -1; i++) {
-            all.append(all.length() == 0 ? "" : " ").append(cases.teaching(i, 0))
-                .append('@').append(cases.teaching(i, 1))
-                .append('/').append(cases.teaching(i, 2));
+        for (int i = 0; i < FAR; i++) {
+            int house = cases.teaching(i, 0);
+            if (house == -1) {
+                break;
+            }
+            add(all, house + "@" + cases.teaching(i, 1) + "/" + cases.teaching(i, 2));
         }
         return all.toString();
     }
@@ -75,25 +81,30 @@ final class Ask {
     static String counts(HandCases cases) {
         StringBuilder all = new StringBuilder();
         for (int what = 0; what <= 8; what++) {
-            all.append(all.length() == 0 ? "" : " ").append(cases.count(what));
+            add(all, String.valueOf(cases.count(what)));
         }
         return all.toString();
     }
 
-    /** All that can be asked of an object, but for the single items' holes. */
-    static String whole(HandCases cases) {
-        StringBuilder all = new StringBuilder();
+    /** All that can be asked of a case with these houses: for a small one some hundred calls of its 512. */
+    static String state(HandCases cases, int... houses) {
+        StringBuilder all = new StringBuilder("counts ").append(counts(cases));
         for (int carrier = 0; carrier < 4; carrier++) {
-            all.append(" F ").append(frame(cases, carrier)).append(" L ").append(list(cases, carrier))
-                .append(" M ").append(cases.minutes(carrier));
+            all.append("; frame ").append(frame(cases, carrier)).append("; list ").append(list(cases, carrier))
+                .append("; minutes ").append(cases.minutes(carrier));
         }
-        for (int house = 0; house < 200; house++) {
-            all.append(';').append(drawer(cases, house));
+        for (int house : houses) {
+            all.append("; drawer ").append(drawer(cases, house));
         }
-        for (int item = 0; item < cases.count(2); item++) {
-            all.append(',').append(cases.lies(item));
+        all.append("; stray ").append(stray(cases)).append("; teaching ").append(teaching(cases)).append("; lies");
+        int items = cases.count(2);
+        for (int item = 0; item < items; item++) {
+            all.append(' ').append(cases.lies(item));
         }
-        return all.append(" S ").append(stray(cases)).append(" T ").append(teaching(cases))
-            .append(" C ").append(counts(cases)).toString();
+        return all.toString();
+    }
+
+    private static void add(StringBuilder all, String one) {
+        all.append(all.length() == 0 ? "" : " ").append(one);
     }
 }

@@ -43,6 +43,10 @@ final class Model {
         }
     }
 
+    int items() {
+        return items.size();
+    }
+
     private List<House> houses() {
         List<House> all = new ArrayList<>();
         rounds.forEach(all::addAll);

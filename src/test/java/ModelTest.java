@@ -1,7 +1,9 @@
 /** Long runs of calls, ordinary and wrong ones mixed, each answer compared with the model's. */
 public final class ModelTest {
-    private static final int RUNS = 240;
+    private static final int RUNS = 480;
+    // An object is used for so many calls; the last ones only ask, so that all that was told before is looked at.
     private static final int CALLS = 512;
+    private static final int TELLING = 400;
 
     private final Check check;
     private final int run;
@@ -47,7 +49,7 @@ public final class ModelTest {
     }
 
     private int someItem() {
-        return near(Math.max(1, cases.count(2)));
+        return near(Math.max(1, model.items()));
     }
 
     private void same(String call, String got, String due) {
@@ -62,7 +64,7 @@ public final class ModelTest {
         // Some runs fill the case with items or houses, so that their limits are reached.
         int eager = run % 3;
         for (int call = 0; call < CALLS && !check.failed(); call++) {
-            int dice = below(100);
+            int dice = call < TELLING ? below(100) : 70 + below(30);
             if (eager == 1 && call < 300) {
                 tellItem();
             } else if (eager == 2 && call < 80) {
@@ -76,9 +78,6 @@ public final class ModelTest {
             } else {
                 ask(dice);
             }
-        }
-        if (!check.failed()) {
-            askAll();
         }
     }
 
@@ -123,7 +122,7 @@ public final class ModelTest {
 
     private void ask(int dice) {
         int carrier = near(4);
-        int i = near(20);
+        int i = below(4) == 0 ? near(250) : near(20);
         if (dice < 74) {
             same("sort()", cases.sort(), model.sort());
         } else if (dice < 80) {
@@ -146,26 +145,6 @@ public final class ModelTest {
         } else {
             int what = near(9);
             same("count(" + what + ")", Ask.text(() -> cases.count(what)), model.count(what));
-        }
-    }
-
-    private void askAll() {
-        for (int carrier = 0; carrier < 4; carrier++) {
-            final int who = carrier;
-            same("minutes(" + who + ")", Ask.text(() -> cases.minutes(who)), model.minutes(who));
-            for (int i = 0; i < 30; i++) {
-                final int at = i;
-                same("frame(" + who + ", " + at + ")", Ask.text(() -> cases.frame(who, at)), model.frame(who, at));
-                same("list(" + who + ", " + at + ")", Ask.text(() -> cases.list(who, at)), model.list(who, at));
-            }
-        }
-        for (int what = 0; what <= 8; what++) {
-            final int of = what;
-            same("count(" + of + ")", Ask.text(() -> cases.count(of)), model.count(of));
-        }
-        for (int i = 0; i < 30; i++) {
-            same("stray(" + i + ")", String.valueOf(cases.stray(i)), model.stray(i));
-            same("lies(" + i + ")", cases.lies(i), model.lies(i));
         }
     }
 }

@@ -691,7 +691,7 @@ public final class PromisesTest {
         x.put(1, 0);
         x.bundle(0, 1);
         x.hold(30, true);
-        String was = Ask.whole(x);
+        String was = Ask.state(x, 10, 20, 30, 40, 50, 99);
         x.house(4, 50);
         x.house(0, 200);
         x.house(3, 10);
@@ -715,6 +715,6 @@ public final class PromisesTest {
         Ask.text(() -> x.minutes(4));
         Ask.text(() -> x.count(9));
         x.sort();
-        same("refusals change nothing", Ask.whole(x), was);
+        same("refusals change nothing", Ask.state(x, 10, 20, 30, 40, 50, 99), was);
     }
 }
