@@ -289,8 +289,10 @@ public final class ChangesBoundariesTest {
         for (int item = 0; item < 6; item++) {
             x.put(item, 0);
         }
-        x.sample(tape, part, whole);
-        return home(x, 1, 6);
+        int found = x.sample(tape, part, whole);
+        String all = home(x, 1, 6);
+        same("sample(" + tape + ", " + part + ", " + whole + ")", found, all.replace("0", "").length());
+        return all;
     }
 
     private static void sampleByHoles() {
@@ -300,9 +302,9 @@ public final class ChangesBoundariesTest {
         for (int item = 0; item < 6; item++) {
             x.put(item, holes[item]);
         }
-        // Tape 1 draws the third and the fourth of six for 300 of 1000: the holes are 0 1 19 21 38 39.
-        same("how many", x.sample(1, 300, 1000), 2);
-        same("those in holes 19 and 21", home(x, 20, 6), "001010");
+        // Tape 1 draws the third of six for 200 of 1000: the holes are 0 1 19 21 38 39.
+        same("how many", x.sample(1, 200, 1000), 1);
+        same("the one in hole 19", home(x, 20, 6), "000010");
 
         HandCases y = Make.one(40, 20);
         Make.same(y, 2, 7, LETTER);

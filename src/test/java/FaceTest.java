@@ -7,7 +7,10 @@ import java.util.Arrays;
 import java.util.Collections;
 import java.util.List;
 
-/** The class has the face that the document shows, and no other member that can be seen from outside. */
+/**
+ * The class has the face that the document shows, and no other member that can be seen from outside; and what of
+ * ../shared/LANGUAGE.md the compiled class tells.
+ */
 public final class FaceTest {
     private static final String[] METHODS = {
         "public int HandCases.house(int,int)",
@@ -38,7 +41,50 @@ public final class FaceTest {
         check.same("fields", visibleFields().toString(), "[public static final int HandCases.NONE]");
         check.same("constructors", visibleConstructors().toString(), "[public HandCases(int)]");
         check.same("NONE", HandCases.NONE, -1);
+        check.same("rule 1: private methods with a public one's name", privateNamesakes().toString(), "[]");
+        check.same("rule 5: static fields that are not final", staticsNotFinal().toString(), "[]");
+        check.same("rule 11: methods of more than seven parameters", longMethods().toString(), "[]");
+        check.same("rule 11: at most twenty fields", instanceFields() <= 20, true);
         check.end();
+    }
+
+    private static List<String> privateNamesakes() {
+        String visible = visibleMethods().toString();
+        List<String> all = new ArrayList<>();
+        for (Method method : HandCases.class.getDeclaredMethods()) {
+            if (Modifier.isPrivate(method.getModifiers()) && visible.contains("." + method.getName() + "(")) {
+                all.add(method.getName());
+            }
+        }
+        return all;
+    }
+
+    private static List<String> staticsNotFinal() {
+        List<String> all = new ArrayList<>();
+        for (Field field : HandCases.class.getDeclaredFields()) {
+            if (Modifier.isStatic(field.getModifiers()) && !Modifier.isFinal(field.getModifiers())) {
+                all.add(field.getName());
+            }
+        }
+        return all;
+    }
+
+    private static List<String> longMethods() {
+        List<String> all = new ArrayList<>();
+        for (Method method : HandCases.class.getDeclaredMethods()) {
+            if (method.getParameterCount() > 7) {
+                all.add(method.getName());
+            }
+        }
+        return all;
+    }
+
+    private static int instanceFields() {
+        int some = 0;
+        for (Field field : HandCases.class.getDeclaredFields()) {
+            some += Modifier.isStatic(field.getModifiers()) ? 0 : 1;
+        }
+        return some;
     }
 
     private static List<String> sorted(List<String> texts) {

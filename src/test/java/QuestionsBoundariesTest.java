@@ -310,6 +310,8 @@ public final class QuestionsBoundariesTest {
         same("the second hole, told", x.lies(2), 1);
         x.point(7, 39);
         same("the last hole, its house's", x.lies(0), 39);
+        x.put(2, 0);
+        same("the first hole, told", x.lies(2), 0);
     }
 
     private static void liesByTheLead() {
@@ -519,6 +521,14 @@ public final class QuestionsBoundariesTest {
         same("those that lead", x.count(3), 249);
         x.put(0, 1);
         same("a bundle at home", x.count(3), 248);
+        HandCases y = four();
+        Make.items(y, FLAT, 0, 1, 99, 1, 99);
+        y.put(0, 4);
+        same("its house is at a hole", y.count(3), 1);
+        y.put(1, 4);
+        same("its house is at none", y.count(3), 2);
+        y.put(2, 0);
+        same("its number is no house", y.count(3), 3);
     }
 
     private static void countHeld() {

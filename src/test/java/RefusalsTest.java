@@ -126,6 +126,7 @@ public final class RefusalsTest {
             for (int i = 0; i < numbers.length; i++) {
                 x.item(numbers[i], kinds[i]);
             }
+            x.put(0, 0);
             x.put(1, 0);
             x.put(4, 3);
             x.put(8, 1);

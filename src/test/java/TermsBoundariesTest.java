@@ -31,6 +31,7 @@ public final class TermsBoundariesTest {
     private static void whatAnItemIs() {
         CHECK.sentence("ITEMS, numbered from 0 on as they come", TermsBoundariesTest::itemsNumbered);
         CHECK.sentence("ITEMS, at most 250", TermsBoundariesTest::items250);
+        CHECK.sentence("60 houses and 250 ITEMS together", TermsBoundariesTest::housesAndItems);
         CHECK.sentence("ITEMS are for a number 0 .. 199", TermsBoundariesTest::itemsForNumbers);
         CHECK.sentence("kinds 0, 1 and 2", TermsBoundariesTest::kinds);
         CHECK.sentence("a letter or flat may go BEHIND another one", TermsBoundariesTest::mayGoBehind);
@@ -270,6 +271,25 @@ public final class TermsBoundariesTest {
             same("the 250th is one", x.put(249, 1), -2);
             same("the 251st is none", x.put(250, 1), -1);
         }
+    }
+
+    private static void housesAndItems() {
+        HandCases x = new HandCases(40);
+        for (int i = 0; i < 250; i++) {
+            same("item " + i, x.item(i % 60, i % 3), i);
+        }
+        for (int i = 0; i < 60; i++) {
+            same("house " + i, x.house(i % 4, i), i / 4 + 1);
+            x.point(i, i % 40);
+        }
+        same("the 61st house", x.house(0, 60), -4);
+        same("the 251st item", x.item(0, LETTER), -4);
+        same("all go to their houses", Ask.counts(x), "40 60 250 0 0 167 83 0 0");
+        // Carrier 3 has houses 3, 7 .. 59; every third of these has what is bulky, the others letters or flats.
+        same("the last of the last frame", Ask.text(() -> x.frame(3, 41)), "235");
+        same("no more in it", Ask.text(() -> x.frame(3, 42)), Ask.BOUNDS);
+        same("the last of the last list", Ask.text(() -> x.list(3, 19)), "239");
+        same("no more in it", Ask.text(() -> x.list(3, 20)), Ask.BOUNDS);
     }
 
     private static void itemsForNumbers() {
@@ -523,6 +543,12 @@ public final class TermsBoundariesTest {
         x.house(3, 31);
         x.point(31, 1);
         same("two of the same", Ask.frame(x, 3), "0");
+        x.house(2, 21);
+        x.point(21, 1);
+        x.house(3, 32);
+        x.point(32, 1);
+        same("the least told between others", Ask.frame(x, 2), "0");
+        same("not with the last", Ask.frame(x, 3), "");
     }
 
     private static void astrayThoughHeld() {
