@@ -237,7 +237,19 @@ public final class RefusalsTest {
         HandCases with = story.made();
         CHECK.same(name, Ask.text(() -> call.of(with)), due);
         CHECK.same(name + ", again", Ask.text(() -> call.of(with)), due);
-        CHECK.same("behind " + name, story.goesOn(with), story.goesOn(story.made()));
+        sameParts("behind " + name, story.goesOn(with), story.goesOn(story.made()));
+    }
+
+    /** Of two long texts only the first part that differs is told. */
+    private static void sameParts(String name, String got, String due) {
+        String[] some = got.split("; |\n");
+        String[] others = due.split("; |\n");
+        int i = 0;
+        while (i < some.length - 1 && i < others.length - 1 && some[i].equals(others[i])) {
+            i++;
+        }
+        CHECK.same(name + ", part " + i, some[i], others[i]);
+        CHECK.same(name + ", parts", some.length, others.length);
     }
 
     private static void refused(String name, Call call, String due) {
